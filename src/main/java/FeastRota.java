@@ -64,16 +64,20 @@ public final class FeastRota {
 
     /** Promise 1. */
     public FeastRota() {
-        tape = new Tape();
-        reader = new Reader(tape, new Book());
-        current = new Book();
-        images = new Book[IMAGES];
+        Tape newTape = new Tape();
+        Book newBook = new Book();
+        Plan newPlan = new Plan(newBook, new Calendar());
+        Book[] newImages = new Book[IMAGES];
         for (int k = 0; k < IMAGES; k++) {
-            images[k] = new Book();
+            newImages[k] = new Book();
         }
+        tape = newTape;
+        reader = new Reader(newTape, new Book());
+        current = newBook;
+        images = newImages;
         acts = new Acts();
-        plan = new Plan(current, new Calendar());
-        rota = new Rota(current, plan);
+        plan = newPlan;
+        rota = new Rota(newBook, newPlan);
         latestFault = 0;
     }
 
@@ -221,7 +225,7 @@ public final class FeastRota {
         plan.lay(y, NOBODY);
         switch (what) {
             case 0: return plan.calendar.weekday(d);
-            case 1: return plan.feastOn[d] == NOBODY ? NONE : plan.feastOn[d];
+            case 1: return plan.holderOf(d) == NOBODY ? NONE : plan.holderOf(d);
             case 2: return plan.rankOf(d);
             case 3: return plan.colourOf(d);
             case 4: return plan.servicesOf(d);
@@ -968,6 +972,7 @@ public final class FeastRota {
             }
         }
 
+        /** Only for a DAY that is FREE. */
         private void hold(int f, int d, int as) {
             how[f] = as;
             on[f] = d;
@@ -1003,16 +1008,23 @@ public final class FeastRota {
             return sum;
         }
 
+        /** The feast held on a day, or NOBODY. */
+        int holderOf(int d) {
+            return within(d, 1, calendar.days) ? feastOn[d] : NOBODY;
+        }
+
         int rankOf(int d) {
-            if (!isFree(d)) {
-                return book.mark(feastOn[d], RANK);
+            int holder = holderOf(d);
+            if (holder != NOBODY) {
+                return book.mark(holder, RANK);
             }
             return calendar.weekday(d) == 0 ? SUNDAY_RANK : 0;
         }
 
         int colourOf(int d) {
-            if (!isFree(d)) {
-                return book.mark(feastOn[d], COLOUR);
+            int holder = holderOf(d);
+            if (holder != NOBODY) {
+                return book.mark(holder, COLOUR);
             }
             for (int s = 0; s < book.seasons; s++) {
                 if (liesIn(d, book.seasonFrom[s], book.seasonTo[s])) {

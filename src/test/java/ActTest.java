@@ -13,6 +13,9 @@ public final class ActTest {
         goingAway();
         undoing();
         sixteenActs();
+        oldestOfAnotherSort();
+        mixedActs();
+        undoAtTheEdges();
         images();
         counts();
         CHECK.end();
@@ -196,6 +199,72 @@ public final class ActTest {
         CHECK.due("the oldest are forgotten", x.law(1, 0), 4);
         CHECK.due("undo", x.undo(), 0);
         CHECK.due("none left", x.undo(), Check.STATE);
+    }
+
+    private static void oldestOfAnotherSort() {
+        FeastRota x = Check.of(TEXT);
+        x.add(3, 9, 1, 1);
+        for (int i = 1; i <= 16; i++) {
+            x.law(1, i);
+        }
+        for (int i = 15; i >= 0; i--) {
+            CHECK.due("undo", x.undo(), i);
+        }
+        CHECK.due("the feast stays", x.count(0), 5);
+        CHECK.due("the moon as told", x.law(1, 2), 2);
+    }
+
+    /** Acts of all sorts move up by one when the oldest is forgotten. */
+    private static void mixedActs() {
+        FeastRota x = Check.of(TEXT);
+        for (int i = 0; i < 6; i++) {
+            x.law(2, i);
+            x.away(2, i + 10, i + 20);
+            x.add(3, i + 1, 1, 1);
+            x.alter(i, 3, 6);
+        }
+        CHECK.due("acts", x.count(3), 16);
+        for (int i = 5; i >= 2; i--) {
+            CHECK.due("colour " + i, x.feast(i, 3), 6);
+            x.undo();
+            CHECK.due("colour " + i + " undone", x.feast(i, 3), i < 4 ? i + 1 : 1);
+            x.undo();
+            CHECK.due("feasts", x.count(0), 4 + i);
+            CHECK.due("away until", x.duties(2, 1, i + 20) - x.duties(2, 1, i + 9), 0);
+            x.undo();
+            CHECK.due("not away until", x.duties(2, 1, i + 20) - x.duties(2, 1, i + 19) > 0 ? 1 : 0, 1);
+            CHECK.due("away as before", x.duties(2, 1, i + 19) - x.duties(2, 1, i + 8), 0);
+            CHECK.due("weekday", x.year(1, 1), i);
+            x.undo();
+            CHECK.due("weekday undone", x.year(1, 1), i - 1);
+        }
+        CHECK.due("none left", x.undo(), Check.STATE);
+    }
+
+    private static void undoAtTheEdges() {
+        FeastRota x = Check.of("k1,2,3;" + "b1,1,1;".repeat(12) + "p20,3;c5,1;");
+        x.alter(0, 0, 1);
+        x.alter(11, 3, 6);
+        x.law(0, 2);
+        x.law(5, 2);
+        x.away(4, 0, 366);
+        CHECK.due("away", x.duties(4, 1, 365), 0);
+        CHECK.due("undo away", x.undo(), 4);
+        CHECK.due("not away", x.duties(4, 1, 365) > 0 ? 1 : 0, 1);
+        CHECK.due("undo rule", x.undo(), 3);
+        CHECK.due("undo leap", x.undo(), 2);
+        CHECK.due("rule as before", x.law(5, 1), 1);
+        CHECK.due("leap as before", x.law(0, 1), 1);
+        x.undo();
+        x.undo();
+        CHECK.due("undo colour", x.undo(), 1);
+        CHECK.due("colour as before", x.feast(11, 3), 1);
+        CHECK.due("undo kind", x.undo(), 0);
+        CHECK.due("kind as before", x.feast(0, 0), 0);
+        FeastRota y = Check.of("k1,2,3;p20,3;c5,1;");
+        y.add(3, 1, 1, 1);
+        y.undo();
+        CHECK.due("no feast", y.count(0), 0);
     }
 
     private static void images() {

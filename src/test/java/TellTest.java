@@ -12,6 +12,8 @@ public final class TellTest {
         badNumbers();
         tooMany();
         whatStays();
+        fullTape();
+        bytesOfAnEarlierTape();
         CHECK.end();
     }
 
@@ -161,6 +163,24 @@ public final class TellTest {
         CHECK.due("another fault", Check.tell(x, "k0;"), -1000102);
         CHECK.due("its number", x.fault(), 1);
         awayEndsWithABook();
+    }
+
+    private static void fullTape() {
+        String text = HEAD + "d001,1,1;".repeat(10) + "d01,1,1;".repeat(2) + "z00,01,1;".repeat(4) + TAIL;
+        CHECK.due("bytes", text.length(), 160);
+        good(text, 12);
+        bad(text.substring(0, 159) + "0", 160, 1);
+        FeastRota x = new FeastRota();
+        Check.feed(x, text);
+        CHECK.due("one more", x.feed(';'), Check.FULL);
+        CHECK.due("it is not there", x.book(), 12);
+    }
+
+    private static void bytesOfAnEarlierTape() {
+        FeastRota x = Check.of(HEAD + "d1,1,1;" + TAIL);
+        CHECK.due("an early end", Check.tell(x, HEAD + "d1,1,1;p10,1;c2,0"), -1000124);
+        CHECK.due("an early end", Check.tell(x, "k0"), -1000102);
+        CHECK.due("an early end", Check.tell(x, ""), -1000100);
     }
 
     private static void awayEndsWithABook() {

@@ -87,7 +87,7 @@ public final class YearTest {
                 CHECK.due("days " + leap + " " + years[i], x.year(years[i], 0), days[leap][i]);
             }
             int weekday = 5;
-            for (int y = 1; y <= 400; y++) {
+            for (int y = 1; y <= 420; y++) {
                 CHECK.due("weekday of day 1 " + leap + " " + y, x.year(y, 1), weekday);
                 weekday = (weekday + x.year(y, 0)) % 7;
             }
@@ -158,6 +158,11 @@ public final class YearTest {
         state(x, 9, 3, 11);
         state(x, 10, 4, Check.NONE);
         state(x, 11, 1, 15);
+        CHECK.due("held of twelve", x.year(1, 5), 5);
+        CHECK.due("remembered of twelve", x.year(1, 6), 3);
+        CHECK.due("remembered of twelve on 365", x.day(1, 365, 5), 1);
+        x.alter(11, 1, 1);
+        state(x, 11, 1, 1);
     }
 
     private static void orderOfHeld() {
@@ -215,6 +220,7 @@ public final class YearTest {
         CHECK.due("colour of 15", y.day(1, 15, 3), 2);
         CHECK.due("the first season from where it was moved", y.day(1, 17, 3), 5);
         y.alter(3, 1, 18);
+        CHECK.due("season 0", Check.of("k0,0,0;d1,4,1;d3,4,2;z0,1,6;p10,3;c3,0;").day(1, 2, 3), 6);
         CHECK.due("ahead of the first season", y.day(1, 17, 3), 4);
         CHECK.due("in both", y.day(1, 19, 3), 5);
     }
