@@ -4,8 +4,9 @@ import java.util.List;
 import java.util.TreeMap;
 
 /**
- * The document a second time, written without a look at the class: whole copies of the state for undo and images,
- * tokens ahead of grammar, days counted one by one. Slow and plain.
+ * The document a second time, in another way than the class: whole copies of the state for undo and images, tokens ahead
+ * of grammar, days counted one by one. By the same hand as the class, though: it finds slips, but a misreading of the
+ * document may stand in both.
  */
 final class Model {
     static final int NONE = Check.NONE, BAD = Check.BAD, STATE = Check.STATE, FULL = Check.FULL;
