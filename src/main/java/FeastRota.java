@@ -400,11 +400,11 @@ public final class FeastRota {
             return BAD;
         }
         plan.lay(y, NOBODY);
-        int fairest = 0;
-        int leastGap = Integer.MAX_VALUE;
+        int fairest = NONE;
+        int leastGap = 0;
         for (int rule = LEAST_LAW[RULE]; rule <= GREATEST_LAW[RULE]; rule++) {
             rota.go(rule, plan.calendar.days);
-            if (rota.gap() < leastGap) {
+            if (fairest == NONE || rota.gap() < leastGap) {
                 leastGap = rota.gap();
                 fairest = rule;
             }
@@ -1156,9 +1156,9 @@ public final class FeastRota {
         }
 
         int gap() {
-            int most = 0;
-            int fewest = Integer.MAX_VALUE;
-            for (int c = 0; c < book.choirs; c++) {
+            int most = has[0];
+            int fewest = has[0];
+            for (int c = 1; c < book.choirs; c++) {
                 most = Math.max(most, has[c]);
                 fewest = Math.min(fewest, has[c]);
             }

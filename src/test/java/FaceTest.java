@@ -141,7 +141,8 @@ public final class FaceTest {
         String source = Files.readString(Path.of("src/main/java/FeastRota.java"));
         String code = source.replaceAll("(?s)/\\*.*?\\*/", "").replaceAll("//[^\n]*", "");
         String[] ruledOut = {"throw", "throws", "try", "catch", "synchronized", "assert", "package", "Thread", "Random",
-            "Object", "hashCode", "toString", "protected", "Scanner", "HashMap", "Map", "Set", "stream", "Exact"};
+            "Object", "hashCode", "toString", "protected", "Scanner", "HashMap", "Map", "Set", "stream", "Exact", "MAX_VALUE",
+            "MIN_VALUE"};
         for (String word : ruledOut) {
             CHECK.due("the word " + word, Pattern.compile("\\b" + word + "\\b").matcher(code).find() ? 1 : 0, 0);
         }
