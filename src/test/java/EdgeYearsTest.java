@@ -50,6 +50,7 @@ public final class EdgeYearsTest {
         barsOfAChain();
         barsBits();
         barsOfOneThatIsLost();
+        barsOnTheFirstDay();
         CHECK.end();
     }
 
@@ -511,5 +512,13 @@ public final class EdgeYearsTest {
         x.alter(0, 1, 364);
         CHECK.due("moved", x.held(1, 1, 0), 2);
         CHECK.due("without it", x.bars(1, 1), 1);
+    }
+
+    /** "without one of which": who is left out is nowhere, not even on the first DAY. */
+    private static void barsOnTheFirstDay() {
+        for (int rank = 1; rank <= 5; rank++) {
+            FeastRota x = Check.of("k0,0,1;d1,5,1;d1," + rank + ",1;" + TAIL);
+            CHECK.due("rank " + rank, x.bars(1, 1), 1);
+        }
     }
 }

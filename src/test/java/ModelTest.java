@@ -48,12 +48,14 @@ public final class ModelTest {
             calls += tell(run, madeUp(false));
         }
         boolean crowded = roll(2) == 0;
-        for (int i = 0; i < 120 && calls < 500; i++) {
+        for (int i = 0; i < 120 && calls <= 510; i++) {
             if (roll(40) == 0) {
-                calls += tell(run, madeUp(true));
+                String text = madeUp(true);
+                calls += calls + text.length() + 2 <= 512 ? tell(run, text) : 0;
             } else {
                 oneCall(run, roll(25), crowded);
-                calls++;
+                // some make two
+                calls += 2;
             }
         }
     }

@@ -88,6 +88,8 @@ public final class YearTest {
             }
             int weekday = 5;
             for (int y = 1; y <= 420; y++) {
+                // an object answers 512 calls
+                x = y % 200 == 0 ? Check.of("k" + leap + ",0,5;p10,3;c3,0;") : x;
                 CHECK.due("weekday of day 1 " + leap + " " + y, x.year(y, 1), weekday);
                 weekday = (weekday + x.year(y, 0)) % 7;
             }

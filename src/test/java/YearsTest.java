@@ -58,7 +58,8 @@ public final class YearsTest {
         CHECK.due("often as -1", x.often(0, 1, 1, -1), Check.BAD);
     }
 
-    private static int meetByOwnDays(FeastRota x, int a, int b, int y) {
+    private static int meetByOwnDays(int a, int b, int y) {
+        FeastRota x = Check.of(TEXT);
         for (int at = y; at < y + 99 && at <= 999; at++) {
             int own = x.held(a, at, 1);
             if (own != Check.NONE && own == x.held(b, at, 1)) {
@@ -74,7 +75,7 @@ public final class YearsTest {
             for (int b = 0; b < 7; b++) {
                 for (int y : new int[] {1, 50, 444, 880, 990, 999}) {
                     if (a != b) {
-                        CHECK.due("meet " + a + " " + b + " " + y, x.meet(a, b, y), meetByOwnDays(x, a, b, y));
+                        CHECK.due("meet " + a + " " + b + " " + y, x.meet(a, b, y), meetByOwnDays(a, b, y));
                     }
                 }
             }
@@ -94,6 +95,8 @@ public final class YearsTest {
         int checked = 0;
         int before = 0;
         for (int y = 1; y <= 999; y++) {
+            // an object answers 512 calls
+            x = y % 400 == 0 ? Check.of("k0,0,0;d81,1,1;f0,5,1;p10,3;c3,0;") : x;
             if (x.held(1, y, 1) == 81) {
                 if (before > 0 && y - before >= 100) {
                     CHECK.due("the 99th year", x.meet(0, 1, y - 98), y);
@@ -107,9 +110,9 @@ public final class YearsTest {
     }
 
     private static void springs() {
-        FeastRota x = Check.of(TEXT);
         int[][] spans = {{1, 1}, {4, 1}, {1, 99}, {4, 19}, {901, 99}, {950, 99}, {999, 99}, {396, 9}, {999, 1}};
         for (int[] span : spans) {
+            FeastRota x = Check.of(TEXT);
             int earliest = 999;
             int latest = 0;
             int leapYears = 0;
@@ -132,12 +135,17 @@ public final class YearsTest {
         CHECK.due("none", plain.springs(1, 3, 2), 0);
     }
 
-    private static void often() {
+    private static FeastRota crowdedEnd() {
         FeastRota x = Check.of(TEXT);
         x.add(3, 365, 5, 1);
         x.add(3, 365, 4, 1);
         x.add(2, 362, 4, 1);
+        return x;
+    }
+
+    private static void often() {
         for (int f = 0; f < 10; f++) {
+            FeastRota x = crowdedEnd();
             for (int y : new int[] {1, 300, 980}) {
                 int[] times = new int[6];
                 for (int at = y; at < y + 30 && at <= 999; at++) {
@@ -149,7 +157,7 @@ public final class YearsTest {
             }
             CHECK.due("one year", x.often(f, 7, 1, x.held(f, 7, 0)), 1);
         }
-        CHECK.due("lost in each year", x.often(8, 1, 30, 5), 30);
+        CHECK.due("lost in each year", crowdedEnd().often(8, 1, 30, 5), 30);
     }
 
     private static void enough() {
@@ -169,32 +177,37 @@ public final class YearsTest {
         CHECK.due("EACH does not matter", x.enough(1, 26), 1);
     }
 
+    private static int fairestByGaps(FeastRota x, int y) {
+        int fairest = 0;
+        int least = Integer.MAX_VALUE;
+        for (int rule = 0; rule <= 2; rule++) {
+            x.law(5, rule);
+            int gap = x.fair(y);
+            x.undo();
+            if (gap < least) {
+                least = gap;
+                fairest = rule;
+            }
+        }
+        return fairest;
+    }
+
     private static void best() {
-        FeastRota x = Check.of(TEXT);
         int[][] spells = {{0, 0}, {1, 100}, {300, 365}, {40, 320}, {340, 361}, {0, 366}};
         boolean[] seen = new boolean[3];
         for (int choir = 0; choir < 4; choir++) {
             for (int[] spell : spells) {
+                FeastRota x = Check.of(TEXT);
                 x.away(choir, spell[0], spell[1]);
                 for (int y = 1; y <= 30; y++) {
-                    int fairest = 0;
-                    int least = Integer.MAX_VALUE;
-                    for (int rule = 0; rule <= 2; rule++) {
-                        x.law(5, rule);
-                        if (x.fair(y) < least) {
-                            least = x.fair(y);
-                            fairest = rule;
-                        }
-                        x.undo();
-                    }
+                    int fairest = fairestByGaps(x, y);
                     seen[fairest] = true;
                     CHECK.due("best " + y, x.best(y), fairest);
                 }
+                CHECK.due("the rule stays", x.law(5, 0), 1);
             }
-            x.away(choir, 1, 0);
         }
         CHECK.due("not always the same", seen[0] && seen[2] ? 1 : 0, 1);
-        CHECK.due("the rule stays", x.law(5, 0), 1);
         FeastRota longestAgo = Check.of("k1,3,1;p10,1;c3,0;");
         longestAgo.away(0, 117, 132);
         longestAgo.away(1, 208, 340);
